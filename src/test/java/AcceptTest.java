@@ -49,6 +49,8 @@ public final class AcceptTest {
         for (int i = 0; i < texts.length; i++) {
             score(0, "text/html;" + texts[i], thousandths[i]);
             score(0, "text/html \t; \t" + texts[i] + " ,a/b", thousandths[i]);
+            Desk.formed(Desk.ACCEPT, "text/html;" + texts[i], true);
+            Desk.formed(Desk.LANGUAGES, "en;" + texts[i], true);
         }
         String[] wrong = {
             "q", "q=", "q=2", "q=00", "q=01", "q=10", "q=.5", "q=0.1234", "q=1.001", "q=1.1", "q=1.0000", "q=0,5", "q =1", "q= 1",
@@ -56,6 +58,7 @@ public final class AcceptTest {
         };
         for (String text : wrong) {
             Desk.formed(Desk.ACCEPT, "text/html;" + text, false);
+            Desk.formed(Desk.LANGUAGES, "en;" + text, false);
         }
     }
 

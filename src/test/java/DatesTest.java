@@ -13,6 +13,7 @@ public final class DatesTest {
         dayNames();
         edges();
         malformed();
+        digitsOnly();
         shortYears();
         fields();
         Desk.end();
@@ -35,7 +36,16 @@ public final class DatesTest {
             String month = MONTHS[day.getMonthValue() - 1];
             String text = String.format("Mon, %02d %s %d 00:00:01 GMT", day.getDayOfMonth(), month, day.getYear());
             Desk.ask(desk, 0, Desk.MODIFIED, text);
-            Desk.due(text, desk.date(Desk.MODIFIED), day.atStartOfDay().toEpochSecond(ZoneOffset.UTC) + 1);
+            long want = day.atStartOfDay().toEpochSecond(ZoneOffset.UTC) + 1;
+            Desk.due(text, desk.date(Desk.MODIFIED), want);
+            String spaced = String.format("Mon %s %2d 00:00:01 %d", month, day.getDayOfMonth(), day.getYear());
+            Desk.ask(desk, 0, Desk.MODIFIED, spaced);
+            Desk.due(spaced, desk.date(Desk.MODIFIED), want);
+            if (day.getYear() >= 1974 && day.getYear() <= 2073) {
+                String dashed = String.format("Monday, %02d-%s-%02d 00:00:01 GMT", day.getDayOfMonth(), month, day.getYear() % 100);
+                Desk.ask(desk, 0, Desk.MODIFIED, dashed);
+                Desk.due(dashed, desk.date(Desk.MODIFIED), want);
+            }
             if (day.plusDays(1).getDayOfMonth() == 1) {
                 String beyond = String.format("Mon %s %d 00:00:01 %d", month, day.getDayOfMonth() + 1, day.getYear());
                 Desk.ask(desk, 0, Desk.MODIFIED, beyond);
@@ -91,7 +101,7 @@ public final class DatesTest {
             "Sun, 06 Nov 1994 08:49:37 UTC", "Sun, 06 Nov 1994 08:49:37 GMT x", "Sun, 06 Nov 1994 08:49:37GMT",
             "Sun, 06 Nov 1994 08-49-37 GMT", "Sun, 06-Nov-1994 08:49:37 GMT", "Sunday, 06-Nov-1994 08:49:37 GMT",
             "Sunday, 6-Nov-94 08:49:37 GMT", "Sunday, 06 Nov 94 08:49:37 GMT", "Sunday 06-Nov-94 08:49:37 GMT",
-            "Sunday, 06-Nov-94 08:49:37", "Sun Nov 06 08:49:37 1994", "Sun Nov 6 08:49:37 1994", "Sun Nov  16 08:49:37 1994",
+            "Sunday, 06-Nov-94 08:49:37", "Sun Nov 06 08:49:37 1994", "Sun Nov 09 08:49:37 1994", "Sun Nov 6 08:49:37 1994", "Sun Nov  16 08:49:37 1994",
             "Sun Nov  6 08:49:37 94", "Sun Nov  6 08:49:37 1994 GMT", "Sun Nov\t 6 08:49:37 1994", "Sun  Nov  6 08:49:37 1994",
             "784111777", "\"v42\"", "Xyz, 06 Nov 1994 08:49:37 GMT", "Sun, 06 Xyz 1994 08:49:37 GMT", "unM, 06 Nov 1994 08:49:37 GMT",
             "Sun, 06 anF 1994 08:49:37 GMT", "Sun, 0a Nov 1994 08:49:37 GMT", "Sun, 06 Nov 1994 08:49:3 GMT", "Sun Nov   08:49:37 1994",
@@ -99,6 +109,19 @@ public final class DatesTest {
         };
         for (String text : texts) {
             date(text, BAD);
+        }
+    }
+
+    /** The characters beside the digits, in every place of one. */
+    private static void digitsOnly() {
+        String[] texts = {"Sun, 11 Nov 1991 11:11:11 GMT", "Sunday, 11-Nov-91 11:11:11 GMT", "Sun Nov 11 11:11:11 1991", "Sun Nov  1 11:11:11 1991"};
+        for (String text : texts) {
+            for (int i = 0; i < text.length(); i++) {
+                if (text.charAt(i) >= '0' && text.charAt(i) <= '9') {
+                    date(text.substring(0, i) + "/" + text.substring(i + 1), BAD);
+                    date(text.substring(0, i) + ":" + text.substring(i + 1), BAD);
+                }
+            }
         }
     }
 

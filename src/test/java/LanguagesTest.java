@@ -15,11 +15,12 @@ public final class LanguagesTest {
     private static void texts() {
         String[] formed = {
             "en", "*", "en-us", "EN", "abcdefgh", "a-12345678", "a-b-c-d-1", " en\t", ",en,", "en , de", "en;q=0.5", "en ; Q=0.5",
-            "*;q=0", "*,*", "en-x1-2y"
+            "*;q=0", "*,*", "en-x1-2y", "az", "za", "AZ", "ZA", "a-09", "a-zZ"
         };
         String[] malformed = {
             "", " ", ",,", "abcdefghi", "a-123456789", "en-", "-us", "en--us", "e1", "1e", "en_us", "en us", "**", "*-us", "en-*", "en;",
-            "en;q", "en;q=", "en;q=2", "en;a=b", "en;q=1;q=1", "en;q=0.1234", "en\u00e4", "en;;q=1", "en;q =1", "en;q= 1", "en.us"
+            "en;q", "en;q=", "en;q=2", "en;a=b", "en;q=1;q=1", "en;q=0.1234", "en\u00e4", "en;;q=1", "en;q =1", "en;q= 1", "en.us",
+            "en`", "`", "en@", "@", "en[", "[", "en{", "{", "a-0/", "a-9:"
         };
         for (String text : formed) {
             Desk.formed(Desk.LANGUAGES, text, true);

@@ -1,6 +1,19 @@
 /** Promises 4 and 5: request and feed. */
 public final class RequestTest {
     private static final int BAD = OriginDesk.BAD;
+    private static final String[] TAGS = {"\"v42\", W/\"v4\"", "*", "\"a,b\""};
+    private static final String[] DATES =
+        {"Sun, 06 Nov 1994 08:49:37 GMT", "Sunday, 06-Nov-94 08:49:37 GMT", "Sun Nov  6 08:49:37 1994", "Sun Nov 16 08:49:37 1994"};
+    private static final String[][] TEXTS = {
+        {"text/plain;q=0.125, */*;q=0.5", "text/html;level=\"\\\"\\1x\";q=1.000", "a/b ; c=d"},
+        {"fr-ca;q=0.125, fr;q=0.5", "*;q=0.25", "abcdefgh-12345678"},
+        TAGS,
+        TAGS,
+        DATES,
+        DATES,
+        {"Sun, 06 Nov 1994 08:49:37 GMT", "W/\"v42\""},
+        {"bytes=10-49, -5", "bytes=0-", "bytes=-12"},
+    };
 
     public static void main(String[] args) {
         feedTakesBytesFromTheLowestOn();
@@ -10,6 +23,8 @@ public final class RequestTest {
         feedTakesHighBytes();
         requestEmptiesAllFields();
         requestSetsTheMethod();
+        formerTextsAreForgotten();
+        fullTextsHaveAnEnd();
         Desk.end();
     }
 
@@ -82,6 +97,48 @@ public final class RequestTest {
         for (int field = 0; field < 8; field++) {
             Desk.due("emptied", desk.feed(field, 0), 0);
             Desk.due("not there", desk.formed(field), false);
+        }
+    }
+
+    /** A shorter text behind a longer one is read as it would be on a new object. */
+    private static void formerTextsAreForgotten() {
+        for (int field = 0; field < 8; field++) {
+            for (String text : TEXTS[field]) {
+                for (int end = 0; end < text.length(); end++) {
+                    OriginDesk fresh = Desk.withOne(60, false);
+                    Desk.feed(fresh, field, text.substring(0, end));
+                    OriginDesk used = Desk.withOne(60, false);
+                    Desk.feed(used, field, text);
+                    used.formed(field);
+                    used.request(0);
+                    Desk.feed(used, field, text.substring(0, end));
+                    String what = "used with <" + text.substring(0, end) + ">";
+                    Desk.due(what + ", formed", used.formed(field), fresh.formed(field));
+                    Desk.due(what + ", date", used.date(field), fresh.date(field));
+                    Desk.due(what + ", score", used.score(0), fresh.score(0));
+                    Desk.due(what + ", respond", used.respond(), fresh.respond());
+                    Desk.due(what + ", last", used.last(0), fresh.last(0));
+                }
+            }
+        }
+    }
+
+    /** Where a text ends at the greatest length, nothing behind it may be looked at. */
+    private static void fullTextsHaveAnEnd() {
+        for (int field = 0; field < 8; field++) {
+            for (String text : TEXTS[field]) {
+                for (int end = 1; end <= text.length(); end++) {
+                    String cut = text.substring(0, end);
+                    OriginDesk plain = new OriginDesk(Desk.NOW);
+                    Desk.feed(plain, field, cut);
+                    OriginDesk full = new OriginDesk(Desk.NOW);
+                    Desk.due("full", Desk.feed(full, field, " ".repeat(96 - end) + cut), 96);
+                    Desk.due("formed, full, with <" + cut + ">", full.formed(field), plain.formed(field));
+                }
+            }
+            OriginDesk same = new OriginDesk(Desk.NOW);
+            Desk.feed(same, field, "a".repeat(96));
+            Desk.due("formed, full of a", same.formed(field), false);
         }
     }
 

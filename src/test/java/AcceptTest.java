@@ -47,8 +47,8 @@ public final class AcceptTest {
         };
         int[] thousandths = {0, 1000, 0, 0, 1000, 500, 250, 125, 1, 1000, 1000, 1000, 999, 10};
         for (int i = 0; i < texts.length; i++) {
-            score(0, "text/html;" + texts[i], thousandths[i]);
-            score(0, "text/html \t; \t" + texts[i] + " ,a/b", thousandths[i]);
+            Desk.typeQuality(0, "text/html;" + texts[i], thousandths[i]);
+            Desk.typeQuality(0, "text/html \t; \t" + texts[i] + " ,a/b", thousandths[i]);
             Desk.formed(Desk.ACCEPT, "text/html;" + texts[i], true);
             Desk.formed(Desk.LANGUAGES, "en;" + texts[i], true);
         }
@@ -67,62 +67,55 @@ public final class AcceptTest {
         for (int type : TYPES) {
             for (int range = 0; range < ranges.length; range++) {
                 boolean fits = type == range || (type == 4 && range == 0);
-                score(type, ranges[range], fits ? 1000 : 0);
-                score(type, ranges[range].toUpperCase(), fits ? 1000 : 0);
+                Desk.typeQuality(type, ranges[range], fits ? 1000 : 0);
+                Desk.typeQuality(type, ranges[range].toUpperCase(), fits ? 1000 : 0);
             }
-            score(type, "*/*;q=0.3", 300);
-            score(type, "text/*", type == 0 || type == 1 || type == 4 ? 1000 : 0);
-            score(type, "IMAGE/*", type == 3 || type == 5 ? 1000 : 0);
-            score(type, "application/*", type == 2 ? 1000 : 0);
-            score(type, "htm/html, text/htm, text/htmll, image/svg", 0);
+            Desk.typeQuality(type, "*/*;q=0.3", 300);
+            Desk.typeQuality(type, "text/*", type == 0 || type == 1 || type == 4 ? 1000 : 0);
+            Desk.typeQuality(type, "IMAGE/*", type == 3 || type == 5 ? 1000 : 0);
+            Desk.typeQuality(type, "application/*", type == 2 ? 1000 : 0);
+            Desk.typeQuality(type, "htm/html, text/htm, text/htmll, image/svg", 0);
         }
     }
 
     private static void parametersMatch() {
-        score(4, "text/html;LEVEL=1", 1000);
-        score(4, "text/html;level=\"1\"", 1000);
-        score(4, "text/html;level=\"\\1\"", 1000);
-        score(4, "text/html;level=2", 0);
-        score(4, "text/html;level=11", 0);
-        score(4, "text/html;level=\"\"", 0);
-        score(4, "text/html;level=\"1 \"", 0);
-        score(4, "text/html;level=\"\\\\1\"", 0);
-        score(4, "text/html;levels=1", 0);
-        score(4, "text/html;level=1;charset=x", 0);
-        score(4, "text/html;charset=x;level=1", 0);
-        score(4, "text/html;level=1;level=1", 1000);
-        score(4, "text/*;level=1", 1000);
-        score(4, "*/*;level=1", 1000);
-        score(0, "*/*;level=1", 0);
-        score(0, "text/html;level=1", 0);
-        score(1, "text/plain;level=1", 0);
+        Desk.typeQuality(4, "text/html;LEVEL=1", 1000);
+        Desk.typeQuality(4, "text/html;level=\"1\"", 1000);
+        Desk.typeQuality(4, "text/html;level=\"\\1\"", 1000);
+        Desk.typeQuality(4, "text/html;level=2", 0);
+        Desk.typeQuality(4, "text/html;level=11", 0);
+        Desk.typeQuality(4, "text/html;level=\"\"", 0);
+        Desk.typeQuality(4, "text/html;level=\"1 \"", 0);
+        Desk.typeQuality(4, "text/html;level=\"\\\\1\"", 0);
+        Desk.typeQuality(4, "text/html;levels=1", 0);
+        Desk.typeQuality(4, "text/html;level=1;charset=x", 0);
+        Desk.typeQuality(4, "text/html;charset=x;level=1", 0);
+        Desk.typeQuality(4, "text/html;level=1;level=1", 1000);
+        Desk.typeQuality(4, "text/*;level=1", 1000);
+        Desk.typeQuality(4, "*/*;level=1", 1000);
+        Desk.typeQuality(0, "*/*;level=1", 0);
+        Desk.typeQuality(0, "text/html;level=1", 0);
+        Desk.typeQuality(1, "text/plain;level=1", 0);
     }
 
     private static void mostSpecificCounts() {
-        score(0, "*/*;q=0.1, text/*;q=0.2, text/html;q=0.3, text/html;level=1;q=0.4", 300);
-        score(4, "*/*;q=0.1, text/*;q=0.2, text/html;q=0.3, text/html;level=1;q=0.4", 400);
-        score(1, "text/html;q=0.3, text/*;q=0.2, */*;q=0.1", 200);
-        score(2, "text/html;q=0.3, text/*;q=0.2, */*;q=0.1", 100);
-        score(0, "text/html;q=0.3, TEXT/HTML;q=0.9", 300);
-        score(0, "text/html;q=0, */*", 0);
-        score(4, "text/*;q=0.6, */*;level=1;q=0.7", 600);
-        score(4, "*/*;level=1;q=0.7, text/*;q=0.6", 700);
-        score(4, "text/html;q=0.6, text/*;level=1;q=0.7", 600);
-        score(4, "text/*;level=1;level=1;q=0.7, text/html;q=0.6, text/html;level=1;q=0.5", 700);
-        score(4, "text/html;level=1;q=0.5, */*;level=1;level=1;level=1;level=1;q=0.8", 800);
+        Desk.typeQuality(0, "*/*;q=0.1, text/*;q=0.2, text/html;q=0.3, text/html;level=1;q=0.4", 300);
+        Desk.typeQuality(4, "*/*;q=0.1, text/*;q=0.2, text/html;q=0.3, text/html;level=1;q=0.4", 400);
+        Desk.typeQuality(1, "text/html;q=0.3, text/*;q=0.2, */*;q=0.1", 200);
+        Desk.typeQuality(2, "text/html;q=0.3, text/*;q=0.2, */*;q=0.1", 100);
+        Desk.typeQuality(0, "text/html;q=0.3, TEXT/HTML;q=0.9", 300);
+        Desk.typeQuality(0, "text/html;q=0, */*", 0);
+        Desk.typeQuality(4, "text/*;q=0.6, */*;level=1;q=0.7", 600);
+        Desk.typeQuality(4, "*/*;level=1;q=0.7, text/*;q=0.6", 700);
+        Desk.typeQuality(4, "text/html;q=0.6, text/*;level=1;q=0.7", 600);
+        Desk.typeQuality(4, "text/*;level=1;level=1;q=0.7, text/html;q=0.6, text/html;level=1;q=0.5", 700);
+        Desk.typeQuality(4, "text/html;level=1;q=0.5, */*;level=1;level=1;level=1;level=1;q=0.8", 800);
     }
 
     private static void absentOrMalformedIsFull() {
-        score(0, "", 1000);
-        score(0, "text/plain, text", 1000);
-        score(0, "text/html;q=0.5;a=b", 1000);
-        score(0, "image/png, a/b", 0);
-    }
-
-    private static void score(int type, String text, int quality) {
-        OriginDesk desk = new OriginDesk(Desk.NOW);
-        desk.add(type, 5, 1, 1, false, 0);
-        Desk.feed(desk, Desk.ACCEPT, text);
-        Desk.due("score of type " + type + " for <" + text + ">", desk.score(0), 1000 * quality);
+        Desk.typeQuality(0, "", 1000);
+        Desk.typeQuality(0, "text/plain, text", 1000);
+        Desk.typeQuality(0, "text/html;q=0.5;a=b", 1000);
+        Desk.typeQuality(0, "image/png, a/b", 0);
     }
 }

@@ -14,7 +14,6 @@ public final class DatesTest {
         edges();
         malformed();
         digitsOnly();
-        shortYears();
         fields();
         Desk.end();
     }
@@ -31,8 +30,8 @@ public final class DatesTest {
 
     private static void everyDay() {
         LocalDate day = LocalDate.of(1970, 1, 1);
-        OriginDesk desk = new OriginDesk(Desk.NOW);
         while (day.getYear() <= 2099) {
+            OriginDesk desk = new OriginDesk(Desk.NOW);
             String month = MONTHS[day.getMonthValue() - 1];
             String text = String.format("Mon, %02d %s %d 00:00:01 GMT", day.getDayOfMonth(), month, day.getYear());
             Desk.ask(desk, 0, Desk.MODIFIED, text);
@@ -121,26 +120,6 @@ public final class DatesTest {
                     date(text.substring(0, i) + "/" + text.substring(i + 1), BAD);
                     date(text.substring(0, i) + ":" + text.substring(i + 1), BAD);
                 }
-            }
-        }
-    }
-
-    private static void shortYears() {
-        for (int nowYear = 1970; nowYear <= 2099; nowYear++) {
-            OriginDesk early = new OriginDesk((int) LocalDate.of(nowYear, 1, 1).atStartOfDay().toEpochSecond(ZoneOffset.UTC));
-            OriginDesk late = new OriginDesk((int) (LocalDate.of(nowYear + 1, 1, 1).atStartOfDay().toEpochSecond(ZoneOffset.UTC) - 1));
-            for (int digits = 0; digits < 100; digits++) {
-                long want = BAD;
-                for (int year = 1970; year <= 2099 && year <= nowYear + 50; year++) {
-                    if (year % 100 == digits) {
-                        want = LocalDate.of(year, 3, 1).atStartOfDay().toEpochSecond(ZoneOffset.UTC);
-                    }
-                }
-                String text = String.format("Friday, 01-Mar-%02d 00:00:00 GMT", digits);
-                Desk.ask(early, 0, Desk.UNMODIFIED, text);
-                Desk.due(text + " early in " + nowYear, early.date(Desk.UNMODIFIED), want);
-                Desk.ask(late, 0, Desk.UNMODIFIED, text);
-                Desk.due(text + " late in " + nowYear, late.date(Desk.UNMODIFIED), want);
             }
         }
     }

@@ -1,6 +1,9 @@
 import java.nio.charset.StandardCharsets;
 
-/** What the tests share: feeding whole texts, and counting answers that are not due. */
+/**
+ * What the tests share: feeding whole texts, and counting answers that are not due.
+ * No test makes more than 512 calls on one object: what later calls answer is free.
+ */
 final class Desk {
     static final int ACCEPT = 0;
     static final int LANGUAGES = 1;
@@ -32,6 +35,16 @@ final class Desk {
 
     static void due(String what, boolean got, boolean want) {
         due(what, got ? 1 : 0, want ? 1 : 0);
+    }
+
+    /** How many answers were not due so far. */
+    static int wrong() {
+        return wrong;
+    }
+
+    /** How many answers were looked at so far. */
+    static int checked() {
+        return checked;
     }
 
     /** Ends the test, with exit code 1 if an answer was not due. */
@@ -88,7 +101,8 @@ final class Desk {
     /** The whole body, and a check that nothing stands before and behind it. */
     static String body(OriginDesk desk) {
         StringBuilder text = new StringBuilder();
-        for (int i = 0; i < desk.length(); i++) {
+        long length = desk.length();
+        for (int i = 0; i < length; i++) {
             text.append((char) desk.body(i));
         }
         due("body before its beginning", desk.body(-1), OriginDesk.BAD);
@@ -100,5 +114,34 @@ final class Desk {
         OriginDesk desk = new OriginDesk(NOW);
         feed(desk, field, text);
         due("formed(" + field + ") of <" + text + ">", desk.formed(field), want);
+    }
+
+    /** The quality, in thousandths, of a type for the text of ACCEPT: a score without a language. */
+    static void typeQuality(int type, String text, int want) {
+        OriginDesk desk = new OriginDesk(NOW);
+        desk.add(type, 5, 1, 1, false, 0);
+        feed(desk, ACCEPT, text);
+        due("score of type " + type + " for <" + text + ">", desk.score(0), 1000 * want);
+    }
+
+    /** The quality, in thousandths, of a language for the text of LANGUAGES: a score without ACCEPT. */
+    static void languageQuality(int language, String text, int want) {
+        OriginDesk desk = new OriginDesk(NOW);
+        desk.add(0, language, 1, 1, false, 0);
+        feed(desk, LANGUAGES, text);
+        due("score of language " + language + " for <" + text + ">", desk.score(0), 1000 * want);
+    }
+
+    /** The bytes that a representation has from one place to another. */
+    static String bytes(int number, int first, int last) {
+        StringBuilder text = new StringBuilder();
+        for (int i = first; i <= last; i++) {
+            text.append((char) ((7 * i + 13 * number + 1) % 251));
+        }
+        return text.toString();
+    }
+
+    static void same(String what, String got, String want) {
+        due(what + " as a whole", got.equals(want), true);
     }
 }

@@ -35,32 +35,32 @@ public final class LanguagesTest {
         for (int language = 0; language < names.length; language++) {
             for (String range : names) {
                 boolean fits = names[language].equals(range) || names[language].startsWith(range + "-");
-                score(language, range, fits ? 1000 : 0);
-                score(language, range.toUpperCase() + ";q=0.25", fits ? 250 : 0);
+                Desk.languageQuality(language, range, fits ? 1000 : 0);
+                Desk.languageQuality(language, range.toUpperCase() + ";q=0.25", fits ? 250 : 0);
             }
-            score(language, "*;q=0.4", 400);
-            score(language, "e, en-u, en-us-x, de-a, d, f, frr, fr-fr", 0);
-            score(language, "", 1000);
-            score(language, "en-;q=0.1", 1000);
+            Desk.languageQuality(language, "*;q=0.4", 400);
+            Desk.languageQuality(language, "e, en-u, en-us-x, de-a, d, f, frr, fr-fr", 0);
+            Desk.languageQuality(language, "", 1000);
+            Desk.languageQuality(language, "en-;q=0.1", 1000);
         }
     }
 
     private static void longestCounts() {
-        score(1, "en;q=0.5, en-us;q=0.7", 700);
-        score(1, "en-us;q=0.7, en;q=0.9", 700);
-        score(1, "en-us;q=0, en", 0);
-        score(0, "en-us;q=0, en", 1000);
-        score(1, "en;q=0.5, EN;q=0.9", 500);
-        score(1, "*;q=0.9, en;q=0.5", 500);
-        score(4, "*;q=0.9, en;q=0.5", 900);
-        score(4, "*;q=0.9, *;q=0.5", 900);
-        score(4, "fr;q=0, *", 0);
+        Desk.languageQuality(1, "en;q=0.5, en-us;q=0.7", 700);
+        Desk.languageQuality(1, "en-us;q=0.7, en;q=0.9", 700);
+        Desk.languageQuality(1, "en-us;q=0, en", 0);
+        Desk.languageQuality(0, "en-us;q=0, en", 1000);
+        Desk.languageQuality(1, "en;q=0.5, EN;q=0.9", 500);
+        Desk.languageQuality(1, "*;q=0.9, en;q=0.5", 500);
+        Desk.languageQuality(4, "*;q=0.9, en;q=0.5", 900);
+        Desk.languageQuality(4, "*;q=0.9, *;q=0.5", 900);
+        Desk.languageQuality(4, "fr;q=0, *", 0);
     }
 
     private static void noLanguage() {
-        score(5, "fr", 1000);
-        score(5, "*;q=0", 1000);
-        score(5, "", 1000);
+        Desk.languageQuality(5, "fr", 1000);
+        Desk.languageQuality(5, "*;q=0", 1000);
+        Desk.languageQuality(5, "", 1000);
     }
 
     private static void products() {
@@ -85,12 +85,5 @@ public final class LanguagesTest {
         Desk.due("score, far", desk.score(Integer.MAX_VALUE), BAD);
         Desk.feed(desk, Desk.LANGUAGES, ",en");
         Desk.due("score 0, text grown", desk.score(0), 1000000);
-    }
-
-    private static void score(int language, String text, int quality) {
-        OriginDesk desk = new OriginDesk(Desk.NOW);
-        desk.add(0, language, 1, 1, false, 0);
-        Desk.feed(desk, Desk.LANGUAGES, text);
-        Desk.due("score of language " + language + " for <" + text + ">", desk.score(0), 1000 * quality);
     }
 }

@@ -145,18 +145,18 @@ public final class RangesTest {
     }
 
     private static void wholeBody() {
-        OriginDesk desk = new OriginDesk(Desk.NOW);
-        for (int n = 0; n < 4; n++) {
-            desk.add(n, n, 300 + n, n, false, 0);
-        }
         String[] accept = {"text/html", "text/plain", "application/json", "image/png"};
         for (int n = 0; n < 4; n++) {
+            OriginDesk desk = new OriginDesk(Desk.NOW);
+            for (int type = 0; type < 4; type++) {
+                desk.add(type, type, 300 + type, type, false, 0);
+            }
             Desk.get(desk, Desk.ACCEPT, accept[n]);
             Desk.due("whole length", desk.length(), 300 + n);
-            same("whole body", Desk.body(desk), bytes(n, 0, 299 + n));
+            Desk.same("whole body", Desk.body(desk), Desk.bytes(n, 0, 299 + n));
+            Desk.due("far body", desk.body(Integer.MAX_VALUE), BAD);
+            Desk.due("far body before", desk.body(Integer.MIN_VALUE), BAD);
         }
-        Desk.due("far body", desk.body(Integer.MAX_VALUE), BAD);
-        Desk.due("far body before", desk.body(Integer.MIN_VALUE), BAD);
     }
 
     private static void partBody() {
@@ -165,7 +165,7 @@ public final class RangesTest {
         desk.add(1, 0, 1000, 1, false, 0);
         Desk.get(desk, Desk.ACCEPT, "text/plain", Desk.RANGE, "bytes=100-499");
         Desk.due("part length", desk.length(), 400);
-        same("part body", Desk.body(desk), bytes(1, 100, 499));
+        Desk.same("part body", Desk.body(desk), Desk.bytes(1, 100, 499));
     }
 
     private static void manyPartsBody() {
@@ -173,12 +173,12 @@ public final class RangesTest {
         desk.add(0, 0, 10, 1, false, 0);
         desk.add(1, 0, 12345, 1, false, 0);
         Desk.get(desk, Desk.ACCEPT, "text/plain", Desk.RANGE, "bytes=9999-10000, 0-9,-1, 99-100");
-        String want = "--PART\r\nRange: 9999-10000/12345\r\n\r\n" + bytes(1, 9999, 10000) + "\r\n"
-            + "--PART\r\nRange: 0-9/12345\r\n\r\n" + bytes(1, 0, 9) + "\r\n"
-            + "--PART\r\nRange: 12344-12344/12345\r\n\r\n" + bytes(1, 12344, 12344) + "\r\n"
-            + "--PART\r\nRange: 99-100/12345\r\n\r\n" + bytes(1, 99, 100) + "\r\n--PART--\r\n";
+        String want = "--PART\r\nRange: 9999-10000/12345\r\n\r\n" + Desk.bytes(1, 9999, 10000) + "\r\n"
+            + "--PART\r\nRange: 0-9/12345\r\n\r\n" + Desk.bytes(1, 0, 9) + "\r\n"
+            + "--PART\r\nRange: 12344-12344/12345\r\n\r\n" + Desk.bytes(1, 12344, 12344) + "\r\n"
+            + "--PART\r\nRange: 99-100/12345\r\n\r\n" + Desk.bytes(1, 99, 100) + "\r\n--PART--\r\n";
         Desk.due("length of many", desk.length(), want.length());
-        same("body of many", Desk.body(desk), want);
+        Desk.same("body of many", Desk.body(desk), want);
         Desk.due("parts of many", desk.parts(), 4);
         Desk.due("first of no part", desk.first(4), BAD);
         Desk.due("last of no part", desk.last(4), BAD);
@@ -217,7 +217,7 @@ public final class RangesTest {
         Desk.due("first behind the parts of <" + range + ">", desk.first(parts), BAD);
         Desk.due("last behind the parts of <" + range + ">", desk.last(parts), BAD);
         if (parts == 1) {
-            same("body of <" + range + ">", Desk.body(desk), bytes(0, edges[0], edges[1]));
+            Desk.same("body of <" + range + ">", Desk.body(desk), Desk.bytes(0, edges[0], edges[1]));
         }
     }
 
@@ -229,18 +229,6 @@ public final class RangesTest {
         Desk.due("no first of <" + range + ">", desk.first(0), BAD);
         Desk.due("no last of <" + range + ">", desk.last(0), BAD);
         Desk.due("length of <" + range + ">", desk.length(), 20);
-        same("body of <" + range + ">", Desk.body(desk), bytes(0, 0, 19));
-    }
-
-    private static String bytes(int n, int first, int last) {
-        StringBuilder text = new StringBuilder();
-        for (int i = first; i <= last; i++) {
-            text.append((char) ((7 * i + 13 * n + 1) % 251));
-        }
-        return text.toString();
-    }
-
-    private static void same(String what, String got, String want) {
-        Desk.due(what + " as a whole", got.equals(want), true);
+        Desk.same("body of <" + range + ">", Desk.body(desk), Desk.bytes(0, 0, 19));
     }
 }

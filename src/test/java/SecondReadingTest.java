@@ -8,102 +8,144 @@ import java.util.ArrayList;
 import java.util.Arrays;
 import java.util.List;
 import java.util.Random;
+import java.util.function.LongSupplier;
 import java.util.regex.Matcher;
 import java.util.regex.Pattern;
 
 /** All promises at once: random calls, answered also by a second reading of the document, with regular expressions. */
 public final class SecondReadingTest {
     private static final int BAD = OriginDesk.BAD;
-    private static final int OBJECTS = 2500;
-    private static final int REQUESTS = 9;
+    private static final int OBJECTS = 4000;
+    private static final int MOST_CALLS = 512;
 
     public static void main(String[] args) {
         Random random = new Random(20261115);
         for (int i = 0; i < OBJECTS; i++) {
-            oneObject(random);
+            new Life(random).run();
         }
         Desk.end();
     }
 
-    private static void oneObject(Random random) {
-        int[] nows = {Desk.NOW, 0, -192522497, -1, random.nextInt()};
-        int now = nows[random.nextInt(nows.length)];
-        OriginDesk desk = new OriginDesk(now);
-        Reading reading = new Reading(now);
-        Texts texts = new Texts(random);
-        for (int i = 0; i < REQUESTS; i++) {
-            changeShelf(random, desk, reading);
+    /** One object, for as many calls as it is promised for. */
+    private static final class Life {
+        private final Random random;
+        private final OriginDesk desk;
+        private final Reading reading;
+        private final Texts texts;
+        private int calls = 0;
+
+        Life(Random random) {
+            int[] nows = {Desk.NOW, 0, -192522497, -1, random.nextInt()};
+            int now = nows[random.nextInt(nows.length)];
+            this.random = random;
+            desk = new OriginDesk(now);
+            reading = new Reading(now);
+            texts = new Texts(random);
+        }
+
+        void run() {
+            boolean goesOn = true;
+            while (goesOn) {
+                goesOn = oneRequest();
+            }
+        }
+
+        /** Whether there is one more call. */
+        private boolean call() {
+            calls++;
+            return calls <= MOST_CALLS;
+        }
+
+        private void check(String what, LongSupplier got, LongSupplier want) {
+            if (call()) {
+                Desk.due(what + " of " + reading, got.getAsLong(), want.getAsLong());
+            }
+        }
+
+        private boolean oneRequest() {
+            changeShelf();
             int method = random.nextInt(12) == 0 ? random.nextInt(5) - 1 : random.nextInt(4) / 3;
-            desk.request(method);
-            reading.request(method);
+            if (call()) {
+                desk.request(method);
+                reading.request(method);
+            }
             for (int field = 0; field < 8; field++) {
                 if (random.nextInt(field == 7 ? 2 : field < 2 ? 3 : 6) == 0) {
-                    feed(random, desk, reading, field, texts.of(field));
+                    feed(field, texts.of(field));
                 }
             }
-            compareRequest(desk, reading);
-            Desk.due("respond to " + reading, desk.respond(), reading.respond());
+            compareRequest();
+            check("respond", desk::respond, reading::respond);
             if (random.nextInt(6) == 0) {
-                changeShelf(random, desk, reading);
+                changeShelf();
             }
-            compareResponse(random, desk, reading);
+            compareResponse();
+            return calls <= MOST_CALLS;
         }
-    }
 
-    private static void changeShelf(Random random, OriginDesk desk, Reading reading) {
-        if (random.nextInt(8) == 0) {
-            desk.clear();
-            reading.shelf.clear();
+        private void changeShelf() {
+            if (random.nextInt(8) == 0 && call()) {
+                desk.clear();
+                reading.shelf.clear();
+            }
+            for (int i = 1 + random.nextInt(3); i > 0; i--) {
+                int[] lengths = {0, 1, 5, 12, 120, 1000, 100000, 100001, -1};
+                long[] changes = {Desk.CHANGE, Desk.CHANGE, Desk.CHANGE, 0, 4102444799L, 4102444800L};
+                int type = random.nextInt(20) == 0 ? 6 : random.nextInt(6);
+                int language = random.nextInt(20) == 0 ? -1 : random.nextInt(6);
+                int length = lengths[random.nextInt(lengths.length)];
+                int tag = random.nextInt(20) == 0 ? 10000 : random.nextInt(3) * 10;
+                boolean weak = random.nextInt(3) == 0;
+                long change = changes[random.nextInt(changes.length)];
+                check("add", () -> desk.add(type, language, length, tag, weak, change), () -> reading.add(type, language, length, tag, weak, change));
+            }
         }
-        for (int i = 1 + random.nextInt(3); i > 0; i--) {
-            int[] lengths = {0, 1, 5, 12, 120, 1000, 100000, 100001, -1};
-            long[] changes = {Desk.CHANGE, Desk.CHANGE, Desk.CHANGE, 0, 4102444799L, 4102444800L};
-            int type = random.nextInt(20) == 0 ? 6 : random.nextInt(6);
-            int language = random.nextInt(20) == 0 ? -1 : random.nextInt(6);
-            int length = lengths[random.nextInt(lengths.length)];
-            int tag = random.nextInt(20) == 0 ? 10000 : random.nextInt(3) * 10;
-            boolean weak = random.nextInt(3) == 0;
-            long change = changes[random.nextInt(changes.length)];
-            Desk.due("add", desk.add(type, language, length, tag, weak, change), reading.add(type, language, length, tag, weak, change));
-        }
-    }
 
-    private static void feed(Random random, OriginDesk desk, Reading reading, int field, String text) {
-        for (int from = 0; from < text.length();) {
-            int many = Math.min(1 + random.nextInt(8), text.length() - from);
-            String piece = text.substring(from, from + many);
-            Desk.due("feed <" + piece + ">", desk.feed(field, Desk.pack(piece)), reading.feed(field, piece));
-            from += many;
+        private void feed(int field, String text) {
+            for (int from = 0; from < text.length();) {
+                int many = Math.min(1 + random.nextInt(8), text.length() - from);
+                String piece = text.substring(from, from + many);
+                check("feed <" + piece + ">", () -> desk.feed(field, Desk.pack(piece)), () -> reading.feed(field, piece));
+                from += many;
+            }
         }
-    }
 
-    private static void compareRequest(OriginDesk desk, Reading reading) {
-        for (int field = -1; field <= 8; field++) {
-            Desk.due("formed(" + field + ") of " + reading, desk.formed(field), reading.formed(field));
-            Desk.due("date(" + field + ") of " + reading, desk.date(field), reading.date(field));
+        private void compareRequest() {
+            for (int i = -1; i <= 8; i++) {
+                int field = i;
+                check("formed(" + field + ")", () -> desk.formed(field) ? 1 : 0, () -> reading.formed(field) ? 1 : 0);
+            }
+            for (int i = 3; i <= 7; i++) {
+                int field = i;
+                check("date(" + field + ")", () -> desk.date(field), () -> reading.date(field));
+            }
+            for (int i = -1; i <= 4; i++) {
+                int n = i;
+                check("score(" + n + ")", () -> desk.score(n), () -> reading.score(n));
+            }
         }
-        for (int n = -1; n <= 4; n++) {
-            Desk.due("score(" + n + ") of " + reading, desk.score(n), reading.score(n));
-        }
-    }
 
-    private static void compareResponse(Random random, OriginDesk desk, Reading reading) {
-        Desk.due("status of " + reading, desk.status(), reading.status);
-        Desk.due("chosen of " + reading, desk.chosen(), reading.chosen);
-        Desk.due("length of " + reading, desk.length(), reading.length);
-        Desk.due("parts of " + reading, desk.parts(), reading.parts.size());
-        for (int k = -1; k <= 4; k++) {
-            boolean there = k >= 0 && k < reading.parts.size();
-            Desk.due("first of " + reading, desk.first(k), there ? reading.parts.get(k)[0] : BAD);
-            Desk.due("last of " + reading, desk.last(k), there ? reading.parts.get(k)[1] : BAD);
+        private void compareResponse() {
+            check("status", desk::status, () -> reading.status);
+            check("chosen", desk::chosen, () -> reading.chosen);
+            check("length", desk::length, () -> reading.length);
+            check("parts", desk::parts, () -> reading.parts.size());
+            for (int i = -1; i <= reading.parts.size(); i++) {
+                int k = i;
+                check("first(" + k + ")", () -> desk.first(k), () -> reading.edge(k, 0));
+                check("last(" + k + ")", () -> desk.last(k), () -> reading.edge(k, 1));
+            }
+            int all = reading.body.length;
+            for (int i : new int[] {-1, 0, all - 11, all - 10, all - 1, all}) {
+                compareByte(i);
+            }
+            for (int turn = 0; turn < 30 && all > 0; turn++) {
+                compareByte(random.nextInt(all));
+            }
         }
-        int all = reading.body.length;
-        for (int i = -1; i <= Math.min(all, 400); i++) {
-            Desk.due("body(" + i + ") of " + reading, desk.body(i), i >= 0 && i < all ? reading.body[i] & 255 : BAD);
-        }
-        for (int turn = 0; turn < 20 && all > 0; turn++) {
-            int i = turn < 12 ? Math.max(0, all - turn) : random.nextInt(all);
-            Desk.due("body(" + i + ") of " + reading, desk.body(i), i < all ? reading.body[i] & 255 : BAD);
+
+        private void compareByte(int i) {
+            check("body(" + i + ")", () -> desk.body(i), () -> reading.byteAt(i));
         }
     }
 
@@ -467,6 +509,14 @@ public final class SecondReadingTest {
                 }
             }
             return specs;
+        }
+
+        int edge(int k, int side) {
+            return k >= 0 && k < parts.size() ? parts.get(k)[side] : BAD;
+        }
+
+        int byteAt(int i) {
+            return i >= 0 && i < body.length ? body[i] & 255 : BAD;
         }
 
         int respond() {

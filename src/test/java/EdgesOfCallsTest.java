@@ -25,6 +25,7 @@ public final class EdgesOfCallsTest {
         Sentence.holds("when field is not 0 .. 7, or it would be above 96.", EdgesOfCallsTest::fullTexts);
         Sentence.holds("Answers the request: the status.", EdgesOfCallsTest::respondAnswersTheStatus);
         Sentence.holds("The response is this one until the next call of respond (whatever add() and clear() do meanwhile).", EdgesOfCallsTest::responseStays);
+        Sentence.holds("The response is this one until the next call of respond", EdgesOfCallsTest::everyStatusStays);
         Sentence.holds("The status of the response; BAD when there is none.", EdgesOfCallsTest::status);
         Sentence.holds("The representation that was chosen for the response (also of 304, 412, 416); BAD when none was (404, 406, 501, 204),"
             + " or there is no response.", EdgesOfCallsTest::chosen);
@@ -402,6 +403,77 @@ public final class EdgesOfCallsTest {
         for (int i : new int[] {0, 15, 25, 26, 27, body.length() - 1}) {
             Desk.due("body stays", desk.body(i), body.charAt(i));
         }
+    }
+
+    /** Whatever is called meanwhile, the answers of the response are those that they were right behind respond. */
+    private static void everyStatusStays() {
+        staysWhatever(0, 200);
+        staysWhatever(1, 200);
+        staysWhatever(2, 204);
+        staysWhatever(3, 501);
+        staysWhatever(0, 206, Desk.RANGE, "bytes=3-4");
+        staysWhatever(0, 206, Desk.RANGE, "bytes=3-4,19-,0-0,6-7");
+        staysWhatever(1, 200, Desk.RANGE, "bytes=3-4");
+        staysWhatever(0, 304, Desk.NONE_MATCH, "*");
+        staysWhatever(1, 304, Desk.NONE_MATCH, "*");
+        staysWhatever(0, 406, Desk.ACCEPT, "a/b");
+        staysWhatever(0, 412, Desk.MATCH, "x");
+        staysWhatever(0, 416, Desk.RANGE, "bytes=20-");
+        OriginDesk empty = new OriginDesk(Desk.NOW);
+        Desk.due("nothing there", empty.respond(), 404);
+        staysMeanwhile(empty, "404");
+    }
+
+    private static void staysWhatever(int method, int code, Object... fields) {
+        OriginDesk desk = new OriginDesk(Desk.NOW);
+        desk.add(0, 5, 9, 41, false, 1);
+        desk.add(1, 5, 20, 42, false, Desk.CHANGE);
+        Desk.ask(desk, method, fields);
+        if (code != 406) {
+            Desk.feed(desk, Desk.ACCEPT, "text/plain");
+        }
+        Desk.due("method " + method, desk.respond(), code);
+        staysMeanwhile(desk, "method " + method + ", " + code);
+    }
+
+    private static void staysMeanwhile(OriginDesk desk, String what) {
+        String told = told(desk);
+        desk.add(6, 0, 0, 0, false, 0);
+        desk.add(0, 5, 3, 4, true, 5);
+        stays(desk, what + ", add", told);
+        desk.clear();
+        stays(desk, what + ", clear", told);
+        desk.add(2, 5, 7, 4, true, 5);
+        desk.add(3, 5, 8, 4, true, 5);
+        stays(desk, what + ", clear and add", told);
+        for (int method = 3; method >= 0; method--) {
+            desk.request(method);
+            stays(desk, what + ", request " + method, told);
+        }
+        Desk.feed(desk, Desk.RANGE, "bytes=0-0,2-2,4-4");
+        desk.formed(Desk.RANGE);
+        desk.score(0);
+        stays(desk, what + ", feed", told);
+        Desk.due(what + ", then respond", desk.respond(), 206);
+        Desk.due(what + ", then parts", desk.parts(), 3);
+    }
+
+    private static void stays(OriginDesk desk, String what, String told) {
+        Desk.same(what + ": the response", told(desk), told);
+    }
+
+    /** What the calls of the promises 7 to 13 answer, but the bytes only near the edges. */
+    private static String told(OriginDesk desk) {
+        StringBuilder text = new StringBuilder();
+        text.append(desk.status()).append(' ').append(desk.chosen()).append(' ').append(desk.length()).append(' ').append(desk.parts());
+        for (int k = 0; k < 4; k++) {
+            text.append(' ').append(desk.first(k)).append('-').append(desk.last(k));
+        }
+        int end = (int) desk.length();
+        for (int i : new int[] {0, 1, 7, 19, end - 1, end, end + 1}) {
+            text.append(' ').append(desk.body(i));
+        }
+        return text.toString();
     }
 
     private static void status() {

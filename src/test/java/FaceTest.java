@@ -49,7 +49,38 @@ public final class FaceTest {
         int modifiers = OriginDesk.class.getModifiers();
         Desk.due("the class is public and final", Modifier.isPublic(modifiers) && Modifier.isFinal(modifiers), true);
         Desk.due("BAD", OriginDesk.BAD, -1);
+        classesInside();
         Desk.end();
+    }
+
+    /** Rule 1 of the language: no method beside the face bears the name of one of the face. */
+    private static void classesInside() {
+        Set<String> names = new TreeSet<>();
+        for (Method method : OriginDesk.class.getDeclaredMethods()) {
+            if (Modifier.isPublic(method.getModifiers())) {
+                names.add(method.getName());
+            } else {
+                Desk.due(method + " bears a name of the face", isOfFace(method), false);
+            }
+        }
+        Desk.due("how many names the face has", names.size(), 15);
+        for (Class<?> inside : OriginDesk.class.getDeclaredClasses()) {
+            int modifiers = inside.getModifiers();
+            Desk.due(inside + " is seen outside", Modifier.isPublic(modifiers) || Modifier.isProtected(modifiers), false);
+            Desk.due(inside + " is static", Modifier.isStatic(modifiers), true);
+            for (Method method : inside.getDeclaredMethods()) {
+                Desk.due(method + " bears a name of the face", isOfFace(method), false);
+            }
+        }
+    }
+
+    private static boolean isOfFace(Method method) {
+        for (String member : FACE) {
+            if (member.contains("OriginDesk." + method.getName() + "(")) {
+                return true;
+            }
+        }
+        return false;
     }
 
     private static void note(Set<String> members, int modifiers, String text) {
